@@ -655,8 +655,10 @@ public final class ComponentContainer {
         }
 
         private void recordEvent(int code) {
-            events[eventCount] = code;
-            eventCount++;
+            if (eventCount < events.length) {
+                events[eventCount] = code;
+                eventCount++;
+            }
         }
     }
 

@@ -7,6 +7,7 @@ public final class ChoiceTest {
         chosen();
         wrongArguments();
         problemKinds();
+        problemsOfAll();
         problemsOrder();
         problemOfWideGraph();
         needs();
@@ -103,7 +104,30 @@ public final class ChoiceTest {
         CHECK.failure(c, "nothing is recorded", 0, -1);
     }
 
+    private static void problemsOfAll() {
+        for (int broken = 0; broken < 20; broken++) {
+            ComponentContainer c = new ComponentContainer();
+            for (int i = 0; i < 20; i++) {
+                c.add(1, i % 3);
+            }
+            int asking = broken == 19 ? 0 : 19;
+            c.set(asking, ComponentContainer.TYPES, 2);
+            c.depend(asking, 0, -1, ComponentContainer.ALL);
+            CHECK.same("no candidate has a problem", c.problem(asking), 0);
+            c.depend(broken, 5, -1, ComponentContainer.REQUIRED);
+            CHECK.same("candidate " + broken + " has a problem", c.problem(asking), ComponentContainer.NO_CANDIDATE);
+        }
+    }
+
     private static void problemsOrder() {
+        ComponentContainer all = new ComponentContainer();
+        all.add(1, 0);
+        all.add(1, 0);
+        all.add(2, 0);
+        all.depend(2, 0, -1, ComponentContainer.ALL);
+        all.depend(1, 5, -1, ComponentContainer.REQUIRED);
+        all.depend(0, 1, -1, ComponentContainer.REQUIRED);
+        CHECK.same("candidates by ascending numbers", all.problem(2), ComponentContainer.CYCLE);
         ComponentContainer c = new ComponentContainer();
         c.add(1, 0);
         c.add(2, 0);

@@ -63,9 +63,11 @@ public final class FaceTest {
         int constants = 0;
         for (Field field : face.getDeclaredFields()) {
             int modifiers = field.getModifiers();
-            constants += Modifier.isPublic(modifiers) ? 1 : 0;
-            check.same("field " + field.getName() + " is private or a public constant", Modifier.isPrivate(modifiers)
-                    || Modifier.isPublic(modifiers) && Modifier.isStatic(modifiers) && Modifier.isFinal(modifiers), true);
+            boolean isConstant = Modifier.isPublic(modifiers) && Modifier.isStatic(modifiers)
+                    && Modifier.isFinal(modifiers);
+            constants += isConstant ? 1 : 0;
+            boolean fits = isConstant || Modifier.isPrivate(modifiers);
+            check.same("field " + field.getName() + " has its place", fits, true);
         }
         check.same("public constants", constants, 21);
         Constructor<?>[] constructors = face.getDeclaredConstructors();
