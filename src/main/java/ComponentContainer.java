@@ -437,7 +437,7 @@ public final class ComponentContainer {
     }
 
     private int recordFailure(int kind, int detail, int chainLength) {
-        failure.record(kind, detail, chain, chainLength);
+        failure.remember(kind, detail, chain, chainLength);
         return FAILED;
     }
 
@@ -669,7 +669,7 @@ public final class ComponentContainer {
         private final int[] chain = new int[MAX_COMPONENTS];
         private int chainLength = 0;
 
-        void record(int failureKind, int failureDetail, int[] underConstruction, int length) {
+        void remember(int failureKind, int failureDetail, int[] underConstruction, int length) {
             kind = failureKind;
             detail = failureDetail;
             System.arraycopy(underConstruction, 0, chain, 0, length);
