@@ -1,11 +1,32 @@
+import java.util.LinkedHashMap;
+import java.util.Map;
+
 /** Counts and prints the answers that are not the ones due; shared by the tests. */
 final class Check {
     private final String test;
     private int checked = 0;
     private int wrong = 0;
 
+    // The sentence of the document that is held now, and how many answers each one was held by.
+    private String sentence = "";
+    private final Map<String, Integer> answersBySentence = new LinkedHashMap<>();
+
     Check(String test) {
         this.test = test;
+    }
+
+    /** The answers that follow hold this sentence; its place is the heading in the document. */
+    void sentence(String place, String words) {
+        sentence = place + ": " + words;
+        answersBySentence.putIfAbsent(sentence, 0);
+    }
+
+    void noSentence() {
+        sentence = "";
+    }
+
+    Map<String, Integer> answersBySentence() {
+        return answersBySentence;
     }
 
     void same(String what, long got, long due) {
@@ -14,6 +35,10 @@ final class Check {
 
     void same(String what, boolean got, boolean due) {
         note(what, got == due, String.valueOf(got), String.valueOf(due));
+    }
+
+    void same(String what, String got, String due) {
+        note(what, got.equals(due), got, due);
     }
 
     void outOfBounds(String what, Runnable call) {
@@ -28,6 +53,10 @@ final class Check {
         throwsExactly(what, IllegalStateException.class, call);
     }
 
+    void throwsNothing(String what, Runnable call) {
+        throwsExactly(what, null, call);
+    }
+
     private void throwsExactly(String what, Class<?> due, Runnable call) {
         Class<?> got = null;
         try {
@@ -35,14 +64,22 @@ final class Check {
         } catch (RuntimeException e) {
             got = e.getClass();
         }
-        note(what, got == due, got == null ? "no exception" : got.getName(), due.getName());
+        note(what, got == due, nameOf(got), nameOf(due));
+    }
+
+    private static String nameOf(Class<?> thrown) {
+        return thrown == null ? "no exception" : thrown.getName();
     }
 
     private void note(String what, boolean right, String got, String due) {
         checked++;
+        if (!sentence.isEmpty()) {
+            answersBySentence.merge(sentence, 1, Integer::sum);
+        }
         if (!right) {
             wrong++;
-            System.out.println(test + ": " + what + " answered " + got + ", due is " + due);
+            String held = sentence.isEmpty() ? "" : " (" + sentence + ")";
+            System.out.println(test + ": " + what + " answered " + got + ", due is " + due + held);
         }
     }
 
